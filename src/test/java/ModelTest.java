@@ -31,6 +31,7 @@ public final class ModelTest {
             tell(1);
         }
         if (seed % 7 == 0) wide();
+        if (seed % 3 == 0) riddlesAlone();
         while (calls < 480) any(r.nextInt(60));
     }
 
@@ -65,6 +66,17 @@ public final class ModelTest {
     private void wide() {
         for (int i = 0; i < 170; i++) years(60);
         for (int i = 0; i < 12; i++) years(1 + r.nextInt(20));
+    }
+
+    /** One kind of riddle after another: told, often to the most, then asked. */
+    private void riddlesAlone() {
+        int[] kinds = {36, 38, 36, 39, 40, 41, 42, 43, 44, 46, 47, 48, 49, 49, 50, 51};
+        int k = 2 * r.nextInt(kinds.length / 2);
+        while (calls < 200) {
+            for (int i = r.nextInt(8); i > 0; i--) riddleAny(kinds[k]);
+            for (int i = r.nextInt(4); i > 0; i--) riddleAny(kinds[k + 1]);
+            if (r.nextInt(6) == 0) k = 2 * r.nextInt(kinds.length / 2);
+        }
     }
 
     private void woman() {
@@ -238,11 +250,11 @@ public final class ModelTest {
                 due("ways", x.ways(p, s, what), m.ways(p, s, what));
                 break;
             case 47:
-                int t = near(100);
+                int t = near(r.nextBoolean() ? 100 : 30);
                 due("step", x.step(t), m.step(t));
                 break;
             case 48:
-                int d = near(100);
+                int d = near(r.nextBoolean() ? 100 : 12);
                 due("alike", x.alike(d, what), m.alike(d, what));
                 break;
             case 49:

@@ -243,6 +243,7 @@ public final class RiddleTest {
         for (int i = 0; i < steps.length; i++) CHECK.due("P33 step", x.step(steps[i]), i + 1);
         CHECK.due("P34 the same", x.alike(0, 0), 2);
         CHECK.due("P34 couples", x.alike(0, 1), 1);
+        CHECK.due("P34 not yet", x.alike(3, 0), 2);
         CHECK.due("P34 each from each", x.alike(4, 0), 3);
         CHECK.due("P34 couples", x.alike(4, 1), 4);
         CHECK.due("P34 eight", x.alike(8, 0), 4);
@@ -315,6 +316,12 @@ public final class RiddleTest {
         x.offer(4);
         CHECK.due("P38 as great as the greatest", x.stop(0), 0);
         CHECK.due("P38 both orders of places", x.stop(1), 2);
+        for (int i = 0; i < 5; i++) x.offer(4);
+        CHECK.due("P38 seven alike", x.stop(0), 0);
+        CHECK.due("P38 all orders of places", x.stop(1), 5040);
+        x.offer(-1);
+        x.offer(4);
+        x.offer(4);
         x.offer(1);
         // k 0: 4 of 6; k 1: 4 4 1 ends with 1, 4 1 4 and 1 4 4 with 4: 4 of 6
         CHECK.due("P38 two alike", x.stop(0), 0);
