@@ -680,19 +680,19 @@ public final class VeiledLandaus {
             int top = 0;
             for (int i = Math.max(0, from); i < to && i < TAPE_MOST; i++) {
                 int token = code[i];
-                if (token == Token.NOT) {
+                if (Token.isNumber(token) || Token.isName(token)) {
+                    if (top < STACK_MOST) {
+                        int name = token - Token.NAMES;
+                        stack[top] = name >= 0 && name < values.length ? values[name] : token;
+                        top++;
+                    }
+                } else if (token == Token.NOT) {
                     if (top > 0 && top <= STACK_MOST) {
                         stack[top - 1] = 1 - stack[top - 1];
                     }
-                } else if (Token.joins(token)) {
-                    if (top > 1 && top <= STACK_MOST) {
-                        top--;
-                        stack[top - 1] = joined(token, stack[top - 1], stack[top]);
-                    }
-                } else if (top < STACK_MOST) {
-                    int name = token - Token.NAMES;
-                    stack[top] = isBelow(name, values.length) ? values[name] : token;
-                    top++;
+                } else if (top > 1 && top <= STACK_MOST) {
+                    top--;
+                    stack[top - 1] = joined(token, stack[top - 1], stack[top]);
                 }
             }
             return top > 0 ? stack[0] : 0;
@@ -772,10 +772,6 @@ public final class VeiledLandaus {
 
         static boolean compares(int token) {
             return token == LESS || token == SAME || token == MORE;
-        }
-
-        static boolean joins(int token) {
-            return token == AND || token == OR || (token > SIGNS && token < END);
         }
 
         static int ofSign(int c) {
@@ -1782,14 +1778,16 @@ public final class VeiledLandaus {
             return fewest + direct;
         }
 
+        /** Each corner that is reached is left once. */
         private boolean parts(int a, int b, int shut) {
             int seen = 1 << a;
-            for (int n = 1; n < CORNERS; n++) {
-                int more = reached(seen) & ~shut;
-                if (more == seen) {
-                    break;
-                }
-                seen = more;
+            int waiting = seen;
+            for (int n = 0; n < CORNERS && waiting != 0; n++) {
+                // as many as there are bits below the lowest one
+                int corner = Integer.bitCount(waiting - 1 & ~waiting);
+                int more = isBelow(corner, CORNERS) ? behind[corner] & ~shut & ~seen : 0;
+                seen |= more;
+                waiting = waiting & waiting - 1 | more;
             }
             return !has(seen, b);
         }
