@@ -8,6 +8,7 @@ public final class BackTest {
         whatForgets();
         whatDoesNot();
         images();
+        imageOfPeople();
         imageOfAll();
         CHECK.close();
     }
@@ -164,6 +165,26 @@ public final class BackTest {
         x.image(false);
         CHECK.due("P41 not the fault", x.fault(1), 14);
         CHECK.due("P41 not the tape", x.text(1), 1);
+    }
+
+    private static void imageOfPeople() {
+        VeiledLandaus x = town();
+        x.wed(0, 0, 1, 2);
+        x.cough(4, true);
+        x.years(30);
+        x.image(true);
+        long before = sight(x);
+        for (int what = 0; what <= 2; what++) x.set(what, 3, 9 - x.of(3, what));
+        x.set(3, 1, 8);
+        x.set(4, 1, 0);
+        x.set(5, 1, -40);
+        x.part(0);
+        x.wed(1, 3, 2, 1);
+        x.years(9);
+        x.image(false);
+        CHECK.due("P41 all of women and grooms", sight(x), before);
+        x.undo();
+        CHECK.due("P41 nothing to undo", sight(x), before);
     }
 
     private static void imageOfAll() {

@@ -143,6 +143,12 @@ public final class RiddleTest {
         for (int w : whats) CHECK.due("P28 another what", x.safe(10, w), -1);
         CHECK.due("P27 none is then", x.bet(-1, 0), 0);
         CHECK.due("P28 nothing back", x.safe(3, 0), 0);
+        for (int i = 0; i < 3; i++) x.bet(i, 111);
+        // 9 bring 9, 10 bring 11: so 10 comes back for no stake below 10
+        CHECK.due("P28 downwards", x.safe(29, 0), 9);
+        CHECK.due("P28 downwards", x.safe(30, 0), 11);
+        CHECK.due("P28 fewest", x.safe(29, 10), 9);
+        x.bet(-1, 0);
         x.bet(0, 300);
         x.bet(1, 300);
         x.bet(2, 1000);

@@ -136,6 +136,11 @@ public final class TextTest {
         CHECK.faulty(x, 0, "yes 1*/2;", 1, 6);
         CHECK.faulty(x, 0, "yes 1/step;", 1, 6);
         CHECK.faulty(x, 0, "yes 1/0;", 2, 6);
+        CHECK.faulty(x, 0, "yes 1/;", 1, 6);
+        CHECK.faulty(x, 0, "yes 1/+2;", 1, 6);
+        CHECK.faulty(x, 0, "yes 1/*2;", 1, 6);
+        CHECK.faulty(x, 0, "yes 1//2;", 1, 6);
+        CHECK.faulty(x, 0, "yes 1/ when 1=1;", 1, 7);
         CHECK.faulty(x, 0, "yes 1/2/000;", 2, 8);
         CHECK.faulty(x, 0, "yes 1/00000;", 1, 6);
         CHECK.faulty(x, 0, "yes 1/", 1, 6);

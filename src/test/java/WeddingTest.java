@@ -4,6 +4,7 @@ public final class WeddingTest {
 
     public static void main(String[] args) {
         byDraws();
+        justBelow();
         whomHeTakes();
         coughsAtTheRail();
         whoCannotWed();
@@ -65,6 +66,35 @@ public final class WeddingTest {
         CHECK.due("P18 no such line", x.book(-1, 0), -10000);
         CHECK.due("P18 another what", x.book(0, 4), -10000);
         CHECK.due("P18 another what", x.book(0, -1), -10000);
+    }
+
+    /** A state whose next draw of 1000 is such. */
+    private static int stateBefore(int draw) {
+        for (int state = 0; state < 10000000; state++) {
+            if ((state * 1664525 + 1013904223 >>> 8) % 1000 == draw) return state;
+        }
+        return -1;
+    }
+
+    private static void justBelow() {
+        int[][] cases = {{0, 0, 1}, {0, 1, 0}, {563, 563, 1}, {563, 564, 0}, {999, 999, 1}, {999, 1000, 0}};
+        for (int[] c : cases) {
+            VeiledLandaus x = town(3, 1);
+            Check.tell(x, 0, "yes " + c[1] + ";");
+            Check.tell(x, 1, "ask 1;");
+            x.state(stateBefore(c[0]));
+            x.wed(0, 0, 1, 2);
+            CHECK.due("P6 draw " + c[0] + ", yes " + c[1], x.book(0, 1), c[2]);
+        }
+        int[][] glad = {{-99, 0, 0}, {-20, 0, 0}, {-19, 4, 1}, {-19, 5, 0}, {99, 594, 1}, {99, 595, 0}, {0, 99, 1}, {0, 100, 0}};
+        for (int[] g : glad) {
+            VeiledLandaus x = town(3, 1);
+            Check.tell(x, 0, "joy 0;");
+            x.wed(0, 0, 1, 2);
+            x.set(5, 0, g[0]);
+            x.state(stateBefore(g[1]));
+            CHECK.due("P9 glad " + g[0] + ", draw " + g[1], x.years(1), g[2]);
+        }
     }
 
     private static void whomHeTakes() {
