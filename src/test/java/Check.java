@@ -1,6 +1,7 @@
 /** Counts answers that are not the ones that are due. */
 final class Check {
     private final String name;
+    private String sentence = "";
     private int made;
     private int wrong;
 
@@ -8,18 +9,35 @@ final class Check {
         this.name = name;
     }
 
+    /** The sentence of the document that the answers from here on are of. */
+    void says(String sentence) {
+        this.sentence = " [" + sentence + "]";
+    }
+
     void due(String call, long got, long want) {
         made++;
         if (got != want) {
-            wrong++;
-            if (wrong <= 40) {
-                System.out.println(name + ": " + call + " answered " + got + ", due is " + want);
-            }
+            wrong(call, String.valueOf(got), String.valueOf(want));
+        }
+    }
+
+    private void wrong(String call, String got, String want) {
+        wrong++;
+        if (wrong <= 40) {
+            System.out.println(name + sentence + ": " + call + " answered " + got + ", due is " + want);
         }
     }
 
     void due(String call, boolean got, boolean want) {
         due(call, got ? 1 : 0, want ? 1 : 0);
+    }
+
+    /** That nothing to be seen is another than before. */
+    void same(String call, String got, String want) {
+        made++;
+        if (!got.equals(want)) {
+            wrong(call, got, want);
+        }
     }
 
     /** Feeds a text and has it taken as text k: what text() answers. */
