@@ -18,8 +18,9 @@ final class Town {
     /** A town whose law makes all say yes or no for sure, with as many QUESTIONS. */
     static VeiledLandaus sure(int women, int grooms, String law, int questions) {
         VeiledLandaus x = of(women, grooms);
-        Check.tell(x, 0, law);
-        Check.tell(x, 1, "ask 1;".repeat(questions));
+        if (Check.tell(x, 0, law) < 0 || Check.tell(x, 1, "ask 1;".repeat(questions)) != questions) {
+            throw new IllegalStateException("not a law: " + law);
+        }
         return x;
     }
 }
