@@ -103,6 +103,8 @@ public final class BackEdgeTest {
         x.state(-77);
         undone("a COUGH", x, y -> y.cough(1, true));
         undone("a WEDDING", x, y -> y.wed(0, 0, 1, 2));
+        x = town();
+        x.state(-77);
         undone("a YEAR", x, y -> y.years(1));
         x = town();
         x.cough(1, true);
@@ -124,8 +126,9 @@ public final class BackEdgeTest {
         x.set(5, 0, 96);
         x.state(Draws.of(0));
         undone("a YEAR with a child", x, y -> y.years(1));
+        x = town();
         x.wed(1, 3, 4, 5);
-        undone("WEDS and TOWN", x, y -> y.part(0));
+        undone("WEDS and TOWN", x, y -> y.wed(0, 0, 1, 2));
         CHECK.due("WEDS", x.who(1, 5), 1);
         x.undo();
         CHECK.due("WEDS of none", x.who(1, 5), 0);
