@@ -10,6 +10,7 @@ public final class TextEdgeTest {
         feeds();
         ends();
         texts();
+        toldAgain();
         faults();
         signs();
         numbers();
@@ -94,6 +95,28 @@ public final class TextEdgeTest {
         x.feed(-1, -1, -1, -1, -1);
         CHECK.due("end(0)", x.end(0), true);
         CHECK.due("empty", x.text(1), 0);
+    }
+
+    /** However much was told before, the latest text is there whole. */
+    private static void toldAgain() {
+        CHECK.says("P12: The TAPE is TEXT k: again and again");
+        VeiledLandaus x = Town.sure(3, 1, "", 1);
+        String ones = "+1".repeat(180);
+        for (int i = 0; i < 5; i++) {
+            CHECK.sound(x, 0, "joy 5*" + i + "/5" + ones + "-1*180;yes 1;", 2);
+            CHECK.due("the latest LAW: joy", x.who(0, 10), i);
+            CHECK.due("the latest LAW: yes", x.yes(0, 0, 0, 0), 1);
+            CHECK.faulty(x, 0, "joy 9" + ones + "?", 1, 5 + ones.length());
+            CHECK.due("the LAW before a FAULT: joy", x.who(0, 10), i);
+            CHECK.sound(x, 1, "ask 9;".repeat(16 - i), 16 - i);
+            CHECK.sound(x, 2, "in 9 cough 1;".repeat(i), i);
+            CHECK.sound(x, 3, "woman 0 sister 1;".repeat(16 - i), 16 - i);
+            CHECK.due("lines of each", 1000 * x.look(8) + 100 * x.look(9) + 10 * x.look(10) + x.look(11),
+                2000 + 100 * (16 - i) + 10 * i + 16 - i);
+            x.image(true);
+            x.image(false);
+            CHECK.due("the latest LAW in THE IMAGE: joy", x.who(0, 10), i);
+        }
     }
 
     private static void texts() {
