@@ -18,6 +18,7 @@ public final class BackEdgeTest {
         notInTheImage();
         fullImage();
         imageByImage();
+        lastOnes();
         CHECK.close();
     }
 
@@ -475,6 +476,85 @@ public final class BackEdgeTest {
             x.image(false);
             CHECK.same("gone back: " + names[i], Sight.of(x) + x.groups(0) + x.who(1, 0) + x.game(0), taken);
         }
+    }
+
+    private static void lastOnes() {
+        CHECK.says("all that is and was told: of each WOMAN and each GROOM");
+        VeiledLandaus x = new VeiledLandaus();
+        for (int w = 0; w < 12; w++) x.woman(w % 10, (w + 3) % 10, (w + 7) % 10);
+        for (int g = 0; g < 8; g++) {
+            x.groom(g + 1, 11 - g);
+            x.set(5, g, 10 - g);
+        }
+        x.cough(11, true);
+        x.wed(7, 11, 10, 9);
+        x.image(true);
+        for (int w = 0; w < 12; w++) {
+            for (int what = 0; what <= 2; what++) x.set(what, w, 9 - x.of(w, what));
+        }
+        for (int g = 0; g < 8; g++) {
+            x.set(3, g, 0);
+            x.set(4, g, 0);
+            x.set(5, g, -3);
+        }
+        x.part(7);
+        x.cough(11, true);
+        x.image(false);
+        for (int w = 0; w < 12; w++) {
+            CHECK.due("STEP of " + w, x.of(w, 0), w % 10);
+            CHECK.due("HEART of " + w, x.of(w, 1), (w + 3) % 10);
+            CHECK.due("ROTE of " + w, x.of(w, 2), (w + 7) % 10);
+            CHECK.due("WED of " + w, x.of(w, 3), w == 11 ? 7 : -1);
+        }
+        for (int g = 0; g < 8; g++) {
+            CHECK.due("NERVE of " + g, x.who(g, 0), g + 1);
+            CHECK.due("PLEDGED of " + g, x.who(g, 1), 11 - g);
+            CHECK.due("WIFE of " + g, x.who(g, 2), g == 7 ? 11 : -1);
+            CHECK.due("GLAD of " + g, x.who(g, 3), 10 - g);
+            CHECK.due("WEDS of " + g, x.who(g, 5), g == 7 ? 1 : 0);
+        }
+        CHECK.due("COUGHS", x.look(4), 0);
+
+        CHECK.says("all that is and was told: none for another");
+        x = new VeiledLandaus();
+        x.step(40);
+        x.step(50);
+        x.offer(1);
+        x.offer(2);
+        x.offer(3);
+        x.man(0, 1, true);
+        x.man(2, 3, true);
+        x.man(4, 5, true);
+        x.man(1, 2, false);
+        x.guess(123, 0, 1);
+        x.bet(0, 300);
+        x.bet(1, 300);
+        x.bet(2, 300);
+        x.bet(2, 400);
+        x.bet(0, 200);
+        for (int i = 0; i < 6; i++) x.street(i, i + 1);
+        int fits = x.plumes(0);
+        x.image(true);
+        x.step(-1);
+        x.offer(-1);
+        x.man(-1, 0, true);
+        x.guess(-1, 0, 0);
+        x.bet(-1, 0);
+        x.street(-1, 0);
+        x.image(false);
+        CHECK.due("SILENCE", x.stop(1), 3);
+        CHECK.due("ALIKE", x.alike(10, 0), 2);
+        CHECK.due("ALIKE", x.alike(9, 0), 1);
+        CHECK.due("OLD MEN", x.liars(0), 4);
+        CHECK.due("PLUMES", x.plumes(0), fits);
+        CHECK.due("BETS", x.safe(300, 0), 327);
+        CHECK.due("STREETS", x.ways(0, 6, 1), 6);
+        CHECK.due("how many: steps", x.step(0), 3);
+        CHECK.due("how many: offers", x.offer(0), 4);
+        CHECK.due("how many: OLD MEN", x.man(0, 0, false), 5);
+        CHECK.due("how many: GUESSES", x.guess(0, 0, 0), 2);
+        CHECK.due("how many: BETS", x.bet(0, 300), 6);
+        CHECK.due("how many: STREETS", x.street(8, 9), 7);
     }
 
     private static void change(VeiledLandaus x, int i) {

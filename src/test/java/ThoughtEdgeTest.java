@@ -20,6 +20,7 @@ public final class ThoughtEdgeTest {
         refusedSent();
         beside();
         ofSeveral();
+        byGroom();
         CHECK.close();
     }
 
@@ -476,5 +477,32 @@ public final class ThoughtEdgeTest {
         for (int w = 0; w < 10; w++) x.cough(w, true);
         x.set(4, 0, 0);
         CHECK.due("the last two", x.sent(0, 0), 1024 + 2048);
+    }
+
+    /** What the GROOM is asked as, in each landau, and for each of the women. */
+    private static void byGroom() {
+        String[] laws = {"counts nerve when place=0; counts 9 when place=1; counts 0;",
+            "counts 9 when place=1; counts nerve when place=2; counts 0;",
+            "counts 20-nerve when place=1; counts nerve;",
+            "yes 496+nerve when place=2; yes 0; counts 7*said;"};
+        for (int law = 0; law < laws.length; law++) {
+            VeiledLandaus x = Town.sure(7, 6, laws[law], 1);
+            for (int g = 0; g < 6; g++) {
+                int third = g >= 4 ? 7 : 0;
+                int more = law < 2 ? 9 - g : law == 2 ? 20 - 2 * g : -third;
+                CHECK.says("SENT, of that GROOM");
+                CHECK.due("law " + law + ", GROOM " + g + ": the set", x.sent(g, 0), 6);
+                CHECK.due("law " + law + ", GROOM " + g + ": more", x.sent(g, 1), more);
+                CHECK.says("WOULD, of that GROOM");
+                int points = law < 2 ? 9 : law == 2 ? 20 - g : third;
+                CHECK.due("law " + law + ", GROOM " + g + ": points", x.would(g, 5, 0, 3, 1), points);
+            }
+        }
+        CHECK.says("TELLS, of that GROOM");
+        VeiledLandaus x = Town.sure(7, 6, "yes 100*nerve when she=1; yes 50*step;", 1);
+        for (int g = 0; g < 6; g++) {
+            int far = Math.min(Math.abs(100 * g - 150), Math.abs(100 * g - 250));
+            CHECK.due("GROOM " + g, x.tells(g, 3, 0, 5, 1), far);
+        }
     }
 }
